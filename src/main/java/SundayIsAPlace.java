@@ -1331,9 +1331,17 @@ public final class SundayIsAPlace {
         private static final int BLANK = 32;
         private static final int MOST_DIGITS = 3;
 
-        private static final int STATEMENTS = 9;
+        /** The STATEMENTS of a VALLEY bear the numbers of its facts. */
+        private static final int FARE_STATEMENT = FARE;
+        private static final int HOURS_STATEMENT = HOURS;
+        private static final int PAY_STATEMENT = PAY;
+        private static final int BACK_STATEMENT = 3;
         private static final int PASS_STATEMENT = 4;
         private static final int PERSON_STATEMENT = 5;
+        private static final int DUTY_STATEMENT = 6;
+        private static final int AT_STATEMENT = 7;
+        private static final int PURSE_STATEMENT = 8;
+        private static final int STATEMENTS = 9;
 
         private static final int VALLEY_NUMBER = 0;
         private static final int FARE_NUMBER = 1;
@@ -1445,12 +1453,12 @@ public final class SundayIsAPlace {
 
         private void comeToPass(int statement) {
             switch (statement) {
-                case FARE:
-                case HOURS:
-                case PAY:
+                case FARE_STATEMENT:
+                case HOURS_STATEMENT:
+                case PAY_STATEMENT:
                     draft.valleys[statement][numbers[0]] = numbers[1];
                     break;
-                case BACK:
+                case BACK_STATEMENT:
                     draft.backFare = numbers[0];
                     break;
                 case PASS_STATEMENT:
@@ -1459,14 +1467,16 @@ public final class SundayIsAPlace {
                 case PERSON_STATEMENT:
                     draft.addPerson(numbers[0], numbers[1], numbers[2]);
                     break;
-                case 6:
+                case DUTY_STATEMENT:
                     draft.people[numbers[0]][DUTY] |= 1 << numbers[1];
                     break;
-                case 7:
+                case AT_STATEMENT:
                     draft.people[numbers[0]][AT] = numbers[1];
                     break;
-                default:
+                case PURSE_STATEMENT:
                     draft.people[numbers[0]][PURSE] = numbers[1];
+                    break;
+                default:
                     break;
             }
         }
@@ -1528,14 +1538,14 @@ public final class SundayIsAPlace {
 
         private static String wordOf(int statement) {
             switch (statement) {
-                case 0: return "fare";
-                case 1: return "hours";
-                case 2: return "pay";
-                case 3: return "back";
-                case 4: return "pass";
-                case 5: return "person";
-                case 6: return "duty";
-                case 7: return "at";
+                case FARE_STATEMENT: return "fare";
+                case HOURS_STATEMENT: return "hours";
+                case PAY_STATEMENT: return "pay";
+                case BACK_STATEMENT: return "back";
+                case PASS_STATEMENT: return "pass";
+                case PERSON_STATEMENT: return "person";
+                case DUTY_STATEMENT: return "duty";
+                case AT_STATEMENT: return "at";
                 default: return "purse";
             }
         }

@@ -38,6 +38,13 @@ public final class ShelvesTest {
         Due.is("row of nothing", x.row(0, 0, 0), 1);
         Due.is("row of nothing holds", x.holds(0), 0);
         Due.is("shelves that hold", x.status(8), 2);
+        x.show(7, -1);
+        Due.is("the first SHELF holds", x.status(8), 1);
+        x.show(0, -1);
+        x.row(7, 0, 0);
+        Due.is("the last SHELF holds", x.status(8), 1);
+        x.show(7, -1);
+        Due.is("no SHELF holds", x.status(8), 0);
         x.person(0, 0, 0);
         x.show(0, 0);
         Due.is("row over one", x.row(0, 4, 1), 1);

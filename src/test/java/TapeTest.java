@@ -48,14 +48,14 @@ public final class TapeTest {
             "pay 1 21", "pass 7 1 1 1", "pass 1 7 1 1", "pass 1 1 1 1", "pass 1 2 10 1", "pass 1 2 1 0",
             "pass 1 2 1 13", "pass 1 001 1 1", "person 6 1 1", "person 1 10 1", "person 1 1 7", "duty 1 1",
             "duty 0 7", "at 1 1", "at 0 7", "purse 1 1", "purse 0 1000", "duty 1 1;person 0 0 0", "12", "back ;",
-            "back 1 ; A", "back 1 back 2", "back 9999999999999", "fare1 2 3"};
+            "back 1 ; A", "back 1 back 2", "back 9999999999999", "fare1 2 3", "backz 1", "mack 1", "bacl 1", "az", "back{1"};
         int[] places = {0, 3, 7, 8, 4, 6, 5, 0, 7, 7,
             0, 0, 5, 0, 6, 4, 5, 5, 5,
             5, 6, 5, 7, 8, 8, 6, 4,
             6, 5, 7, 7, 9, 11,
             11, 7, 7, 9, 11, 5,
             7, 3, 5, 6, 8, 5, 0, 5,
-            9, 7, 5, 8};
+            9, 7, 5, 8, 0, 0, 0, 0, 4};
         for (int i = 0; i < texts.length; i++) {
             SundayIsAPlace x = new SundayIsAPlace();
             x.person(0, 0, 0);

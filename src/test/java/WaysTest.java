@@ -206,6 +206,10 @@ public final class WaysTest {
         }
         x.tell(0, 2, 20);
         Due.is("TIRED aside", x.works(0), 2);
+        x.ask(1, 2, 1);
+        Due.is("works for a PAY of 1", x.works(0), 7);
+        x.ask(1, 2, 20);
+        Due.is("works once for all", x.works(0), 1);
         x.ask(1, 2, 0);
         Due.is("no PAY", x.works(0), -1);
         x.tell(0, 0, 6);
@@ -227,6 +231,9 @@ public final class WaysTest {
             Due.is("within HOURS " + v[i], x.within(0, v[i], 0), hours[i]);
             Due.is("within PRICES " + v[i], x.within(0, v[i], 1), prices[i]);
         }
+        x.tell(0, 0, 6);
+        Due.is("within no HOURS", x.within(0, 0, 0), 64);
+        Due.is("within no PRICES", x.within(0, 0, 1), 64);
         int[][] bad = {{-1, 0, 0}, {1, 0, 0}, {0, -1, 0}, {0, 1000, 1}, {0, 0, -1}, {0, 0, 2}};
         for (int i = 0; i < bad.length; i++) {
             Due.refused(x, "within " + i, x.within(bad[i][0], bad[i][1], bad[i][2]), -2, i);
@@ -241,6 +248,13 @@ public final class WaysTest {
         Due.is("crowd, the first", x.crowd(), 2);
         x.person(2, 3, 5);
         Due.is("crowd", x.crowd(), 5);
+        SundayIsAPlace y = new SundayIsAPlace();
+        y.person(0, 0, 0);
+        y.person(0, 0, 3);
+        Due.is("crowd AT the first VALLEY", y.crowd(), 0);
+        y.tell(0, 0, 6);
+        y.tell(1, 0, 6);
+        Due.is("crowd AT the last VALLEY", y.crowd(), 6);
         x.ask(3, 0, 4);
         Due.is("ring of a PERSON", x.ring(0), 10);
         Due.is("ring of a CLERK: each STEP is cut", x.ring(1), 2);
