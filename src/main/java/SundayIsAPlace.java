@@ -1067,8 +1067,8 @@ public final class SundayIsAPlace {
         private int firstStep(Land land, int[] one, int at, int goal) {
             for (int step = 0; step < STEPS; step++) {
                 int end = land.endOf(at, step);
-                if (end != NONE
-                        && weight(land, one, at, step, CHEAPEST_THEN_FEWEST) + between(end, goal) == between(at, goal)) {
+                int more = weight(land, one, at, step, CHEAPEST_THEN_FEWEST);
+                if (end != NONE && more + between(end, goal) == between(at, goal)) {
                     return step;
                 }
             }
