@@ -2,6 +2,7 @@
 final class Due {
     private static int asked = 0;
     private static int wrong = 0;
+    private static int sentences = 0;
 
     private Due() {
     }
@@ -16,6 +17,18 @@ final class Due {
 
     static boolean anyWrong() {
         return wrong > 0;
+    }
+
+    /** A sentence of the document (or a part of it that names one edge) and the test of its own that it has. */
+    static void sentence(String words, Runnable test) {
+        int askedAhead = asked;
+        int wrongAhead = wrong;
+        sentences++;
+        test.run();
+        is("whether anything was asked for: " + words, asked > askedAhead ? 1 : 0, 1);
+        if (wrong > wrongAhead) {
+            System.out.println("  so this is broken: " + words);
+        }
     }
 
     /** A refusal's number, and that it was counted: status is told ahead of the call and behind it. */
@@ -43,7 +56,8 @@ final class Due {
     }
 
     static void end(String name) {
-        System.out.println(name + ": " + asked + " answers, " + wrong + " not as due");
+        String of = sentences > 0 ? " to " + sentences + " sentences" : "";
+        System.out.println(name + ": " + asked + " answers" + of + ", " + wrong + " not as due");
         if (wrong > 0) {
             System.exit(1);
         }
