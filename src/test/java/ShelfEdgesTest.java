@@ -361,6 +361,12 @@ public final class ShelfEdgesTest {
         Due.is("nothing is refused", x.status(12) + x.status(13) + x.status(14), 0);
     }
 
+    private static void elementThatLooksLikeARefusal() {
+        Twins.keep(Scene::town, "element", -2, x -> x.element(Scene.LONGS, 2));
+        Twins.keep(Scene::town, "element", -1, x -> x.element(Scene.BYTES, 0));
+        Twins.keep(Scene::town, "element", 1L << 32, x -> x.element(Scene.LONGS, 0));
+    }
+
     private static void holdsNone() {
         for (int s : NO_SHELF) {
             Twins.keep(Scene::town, "holds " + s, -1, x -> x.holds(s));
@@ -545,6 +551,7 @@ public final class ShelfEdgesTest {
     private static void whatIsThere() {
         Due.sentence("5: 0: none (nothing is refused)", ShelfEdgesTest::elementOfNone);
         Due.sentence("5: 0: no ROW (nothing is refused)", ShelfEdgesTest::elementOfNoRow);
+        Due.sentence("5: Element i of the ROW, whatever it is", ShelfEdgesTest::elementThatLooksLikeARefusal);
         Due.sentence("5: 0: what was there ahead of it", ShelfEdgesTest::elementOfWhatWasThere);
         Due.sentence("6: NONE NOTHING, no SHELF", ShelfEdgesTest::holdsNone);
         Due.sentence("6: 0 to 4 a ROW by its SORT", ShelfEdgesTest::holdsARowBySort);

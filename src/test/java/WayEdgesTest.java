@@ -356,6 +356,17 @@ public final class WayEdgesTest {
         row(z, 6, 1);
     }
 
+    private static void routeByPassesThatBeginThere() {
+        SundayIsAPlace x = lone();
+        x.pass(1, 0, 0, 1);
+        x.pass(0, 3, 0, 1);
+        row(x, 3, 3);
+        x.pass(3, 5, 0, 1);
+        row(x, 5, 3, 4);
+        x.tell(0, 0, 1);
+        row(x, 5, 2, 3, 4);
+    }
+
     private static void routeBadAheadOfStuck() {
         refuse("nobody, not so many", -2, x -> x.route(2, 0, 9));
         refuse("no VALLEY, not so many", -2, x -> x.route(0, 7, 9));
@@ -933,6 +944,7 @@ public final class WayEdgesTest {
         Due.sentence("23: the longest of the CHEAPEST ways", WayEdgesTest::longestRoute);
         Due.sentence("23: with fewest STEPS", WayEdgesTest::routeOfFewestSteps);
         Due.sentence("23: the first by rows of STEPS", WayEdgesTest::routeOfTheFirstByRows);
+        Due.sentence("23: a PASS that begins there", WayEdgesTest::routeByPassesThatBeginThere);
         Due.sentence("23: BAD (person)", () -> ofPerson("route", (x, v) -> x.route(v, 6, -1)));
         Due.sentence("23: BAD (valley)", () -> ofValley("route", (x, v) -> x.route(0, v, -1)));
         Due.sentence("23: BAD; STUCK: in this order", WayEdgesTest::routeBadAheadOfStuck);
