@@ -1002,6 +1002,7 @@ public final class SundayIsAPlace {
 
     /** The least of something between all VALLEYS for one of the PEOPLE, and what is read from that. */
     private static final class Ways {
+        /** Above what any way or TOUR can cost. */
         private static final int FAR = 1000000;
         /** Above the STEPS of each way without a loop: PRICES count ahead of STEPS. */
         private static final int STEP_ROOM = 64;
@@ -1132,7 +1133,7 @@ public final class SundayIsAPlace {
         }
 
         private int leastByNext(Ways ways, int set, int v) {
-            int best = Integer.MAX_VALUE;
+            int best = Ways.FAR;
             for (int next = 0; next < VALLEYS; next++) {
                 if ((set & (1 << next)) != 0) {
                     best = Math.min(best, leastOver(ways, set, v, next));
