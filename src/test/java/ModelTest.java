@@ -333,6 +333,6 @@ public final class ModelTest {
         for (int run = 0; run < runs && !Due.anyWrong(); run++) {
             new ModelTest(run).goOn();
         }
-        Due.end("ModelTest");
+        Due.end("ModelTest, " + runs + " runs");
     }
 }
